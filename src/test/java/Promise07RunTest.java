@@ -13,6 +13,7 @@ public final class Promise07RunTest {
         rowsThatCannotHoldAnyMore();
         zeroTops();
         hardestSearch();
+        fullObject();
         Due.end();
     }
 
@@ -217,5 +218,16 @@ public final class Promise07RunTest {
         Due.is("the last run", 1, answer);
         Due.is("runs", all / 100000 + 1, runs);
         Due.is("told(1)", all, x.told(1));
+    }
+
+    private static void fullObject() {
+        OrderBounds x = Full.make();
+        Due.is("run", 0, x.run(100000));
+        Due.is("told(0)", 6, x.told(0));
+        for (int k = 0; k < 5; k++) {
+            Due.is("value(" + k + ")", k % 2 == 0 ? 2 : 0, x.value(k));
+        }
+        x.right(3, 7);
+        Due.is("run, not below 7", 1, x.run(100000));
     }
 }

@@ -7,6 +7,7 @@ public final class Promise12ContradictionTest {
         lowestFirst();
         byItselfOnly();
         goesBesideTheSearch();
+        fullObject();
         Due.end();
     }
 
@@ -85,5 +86,14 @@ public final class Promise12ContradictionTest {
         x.run(2);
         Due.is("contradiction()", 0, x.contradiction());
         Due.is("told(1)", 2, x.told(1));
+    }
+
+    private static void fullObject() {
+        OrderBounds x = Full.make();
+        Due.is("full", -1, x.contradiction());
+        x.right(3, 10);
+        Due.is("not below 10", -1, x.contradiction());
+        x.right(3, 11);
+        Due.is("not below 11", 3, x.contradiction());
     }
 }

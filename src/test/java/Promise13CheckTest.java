@@ -6,6 +6,7 @@ public final class Promise13CheckTest {
         lowestRowThenCut();
         bitsBehindTheColumns();
         goesByItself();
+        fullObject();
         Due.end();
     }
 
@@ -82,5 +83,20 @@ public final class Promise13CheckTest {
         x.run(100);
         Due.is("check(5)", 101, x.check(5));
         Due.is("value(0)", 4, x.value(0));
+    }
+
+    private static void fullObject() {
+        OrderBounds x = Full.make();
+        int two = 2;
+        Due.is("2 0 2 0 2", 0, x.check(two | two << 12 | two << 24));
+        Due.is("all 2", 101, x.check(two | two << 6 | two << 12 | two << 18 | two << 24));
+        Due.is("2 2 2 2 1", 102, x.check(two | two << 6 | two << 12 | two << 18 | 1 << 24));
+        Due.is("2 2 2 2 0", 103, x.check(two | two << 6 | two << 12 | two << 18));
+        Due.is("2 2 0 0 0", 105, x.check(two | two << 6));
+        Due.is("0 2 2 0 0", 106, x.check(two << 6 | two << 12));
+        Due.is("0 0 2 2 0", 107, x.check(two << 12 | two << 18));
+        Due.is("0 0 0 2 2", 108, x.check(two << 18 | two << 24));
+        x.right(3, 1);
+        Due.is("all 0", 104, x.check(0));
     }
 }

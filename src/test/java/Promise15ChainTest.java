@@ -7,6 +7,7 @@ public final class Promise15ChainTest {
         lowestOfTheLongest();
         eachDifferent();
         lowestIsNotAlwaysLongest();
+        manyPairsBehindOne();
         Due.end();
     }
 
@@ -93,5 +94,19 @@ public final class Promise15ChainTest {
         y.follow(3, 1);
         y.follow(1, 4);
         isChain("by way of 2", y, 0, 2, 3, 1, 4);
+    }
+
+    private static void manyPairsBehindOne() {
+        OrderBounds x = withColumns(5);
+        for (int b = 4; b > 0; b--) {
+            x.follow(0, b);
+        }
+        isChain("0 1", x, 0, 1);
+        x.follow(4, 0);
+        isChain("4 0 1", x, 4, 0, 1);
+        x.follow(1, 4);
+        isChain("1 4 0 2", x, 1, 4, 0, 2);
+        x.follow(3, 1);
+        isChain("3 1 4 0 2", x, 3, 1, 4, 0, 2);
     }
 }
