@@ -7,8 +7,14 @@ final class Due {
 
     private static int wrong = 0;
     private static int asked = 0;
+    private static String sentence = "";
 
     private Due() {
+    }
+
+    /** The document's words that the answers from here on are due by; they are printed with a wrong one. */
+    static void sentence(String words) {
+        sentence = " (" + words + ")";
     }
 
     static void is(String what, long want, long got) {
@@ -58,6 +64,6 @@ final class Due {
                 break;
             }
         }
-        System.out.println(where + ": " + text);
+        System.out.println(where + ": " + text + sentence);
     }
 }
