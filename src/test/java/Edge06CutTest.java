@@ -214,13 +214,17 @@ public final class Edge06CutTest {
 
     private static void multipliersAreZeroWhenACutComes() {
         Due.sentence("all 0 when a row or cut comes: a cut");
-        OrderBounds x = Made.withTops(0, 0, 0);
+        OrderBounds x = new OrderBounds();
+        x.column(0, 3);
+        x.column(0, 7);
+        x.column(0, 1);
         x.row(0, 4);
         x.row(1, 5);
         x.cut(0, 1);
         x.multiplier(0, 1000);
-        x.multiplier(1, -3000);
-        Due.is("certificate()", 4 - 15, x.certificate());
+        x.multiplier(1, -2000);
+        x.multiplier(2, 1000);
+        Due.is("certificate()", 4 - 10 + 7, x.certificate());
         x.cut(1, 2);
         Due.is("certificate() when a cut has come", 0, x.certificate());
         x.multiplier(0, 1000);

@@ -15,6 +15,7 @@ public final class Edge07RunTest {
         oneAboveTheBest();
         nothingFoundIsNoWorth();
         negativeWorthsAddNothing();
+        hopeOfZero();
         canNotHoldNotAbove();
         canNotHoldNotBelow();
         cutsCanNotHold();
@@ -241,6 +242,25 @@ public final class Edge07RunTest {
         Due.is("value(0)", 1, x.value(0));
         Due.is("value(1)", 0, x.value(1));
         Due.is("told(1)", 1 + 3 + 1 + 3 + 1, x.told(1));
+    }
+
+    /** The first number of column 0 finds a plan of worth 0; with its last one no number of column 1 is tried. */
+    private static void hopeOfZero() {
+        Due.sentence("the most that all later columns can add (.. where above 0): 0 when none is");
+        for (int worth : new int[] {0, -1, -1000}) {
+            OrderBounds x = new OrderBounds();
+            x.column(0, 1);
+            x.column(worth, 2);
+            Due.is("run(4)", 2, x.run(4));
+            Due.is("told(0)", 0, x.told(0));
+            Due.is("run(1)", 0, x.run(1));
+            Due.is("told(1)", 1 + 3 + 1, x.told(1));
+        }
+        OrderBounds y = new OrderBounds();
+        y.column(1, 1);
+        y.column(1000, 0);
+        Due.is("run(3), a top of 0", 0, y.run(3));
+        Due.is("told(1)", 1 + 1 + 1, y.told(1));
     }
 
     /** Column 0 adds 2 each, column 1 at least -3: 2 comes to 1. */

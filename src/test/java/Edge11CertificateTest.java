@@ -3,6 +3,7 @@ public final class Edge11CertificateTest {
     public static void main(String[] args) {
         nothing();
         whereThatIsAboveZero();
+        oneThousandthAboveZero();
         roundedTowardsLowerNumbers();
         worthsAreThousandfold();
         topOfZero();
@@ -44,6 +45,24 @@ public final class Edge11CertificateTest {
         Due.is("far below 0 is left out", 0, x.certificate());
         x.column(2, 3);
         Due.is("one left out, one not", 6, x.certificate());
+    }
+
+    /** 20 times 0.999 lacks just the 20 thousandths that column 0 adds. */
+    private static void oneThousandthAboveZero() {
+        Due.sentence("top times (..), where that is above 0: by one thousandth");
+        OrderBounds x = new OrderBounds();
+        x.column(1, 20);
+        x.row(0, 20);
+        x.factor(0, 0, 1);
+        x.multiplier(0, 999);
+        Due.is("19.980 and 20 times 0.001", 20, x.certificate());
+        x.row(0, 0);
+        x.factor(1, 0, 1);
+        x.multiplier(0, 999);
+        x.multiplier(1, 1);
+        Due.is("19.980 and 20 times 0", 19, x.certificate());
+        x.multiplier(1, 2);
+        Due.is("19.980 and nothing for 20 times -0.001", 19, x.certificate());
     }
 
     private static void roundedTowardsLowerNumbers() {

@@ -42,9 +42,10 @@ final class Shown {
         }
     }
 
+    /** What can't be refused comes first: a refusal that changes something must not hide by being asked for. */
     private void asked() {
-        found();
         add("certificate", x::certificate);
+        add("told 1", () -> x.told(1));
         add("contradiction", x::contradiction);
         for (int p : PROBES) {
             add("check " + p, () -> x.check(p));
@@ -53,6 +54,7 @@ final class Shown {
             int place = k;
             add("chain " + k, () -> x.chain(place));
         }
+        found();
     }
 
     private void found() {
